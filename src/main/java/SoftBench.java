@@ -485,15 +485,16 @@ public final class SoftBench {
             switch (kind) {
                 case STEP: return a;
                 case RAMP: return n > 1 ? a + (b - a) * i / (n - 1) : a;
-                case SWING: return n > 0 ? swingRate(i % (4 * n)) : 0;
+                case SWING: return swingRate(i);
                 default: return 0;
             }
         }
 
-        private int swingRate(int j) {
+        private int swingRate(int i) {
             if (n < 1) {
                 return 0;
             }
+            int j = i % (4 * n);
             if (j <= n) {
                 return a * j / n;
             }
@@ -811,9 +812,11 @@ public final class SoftBench {
             }
             int end = Math.min(one.size, other.size - d);
             for (int t = Math.max(0, -d); t < end; t++) {
-                if (one.isThere(t) && other.isThere(t + d)) {
+                int here = one.values[t];
+                int there = other.values[t + d];
+                if (here != NO && there != NO) {
                     overlap++;
-                    spread = Math.max(spread, Math.abs(one.values[t] - other.values[t + d]));
+                    spread = Math.max(spread, Math.abs(here - there));
                 }
             }
         }

@@ -18,6 +18,7 @@ public final class CurveTest {
         checkEdges();
         checkOil();
         doubt();
+        passedCurves();
         doubtStays();
         count();
         due.end();
@@ -134,6 +135,9 @@ public final class CurveTest {
         due.is("laid back by 3", x.shift(0, 1, 5), -3);
         due.is("laid on by 3", x.shift(1, 0, 5), 3);
         due.is("as far as it may", x.shift(0, 1, 2), -2);
+        due.is("as far on as it may", x.shift(1, 0, 2), 2);
+        due.is("by one on", x.shift(1, 0, 1), 1);
+        due.is("by one back", x.shift(0, 1, 1), -1);
         due.is("not at all", x.shift(0, 1, 0), 0);
         due.is("far", x.shift(0, 1, 400), -3);
         int[][] bad = {{-1, 0, 1}, {4, 0, 1}, {0, -1, 1}, {0, 4, 1}, {0, 1, -1}, {0, 1, 401}, {2, 0, 1}, {0, 2, 1},
@@ -277,6 +281,21 @@ public final class CurveTest {
         x.keep(1);
         due.is("fails", x.check(0), 0);
         expectDoubts("KEPT anew since then", x, 1, 1, 1, 0);
+    }
+
+    private static void passedCurves() {
+        SoftBench x = oil();
+        for (int c = 0; c < 4; c++) {
+            x.keep(c);
+        }
+        x.check(50);
+        x.check(0);
+        expectDoubts("a CHECK has passed for all of them", x, 0, 0, 0, 0);
+        for (int c = 3; c >= 0; c--) {
+            x.keep(c);
+        }
+        x.check(0);
+        expectDoubts("none has since", x, 1, 1, 1, 1);
     }
 
     private static void doubtStays() {

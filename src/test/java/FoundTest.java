@@ -12,10 +12,12 @@ public final class FoundTest {
         steadyLost();
         miss();
         missOfOneRate();
+        missInAnyOrder();
         missPoints();
         beside();
         swing();
         swingFirstTime();
+        swingAhead();
         swingRefused();
         area();
         due.end();
@@ -109,6 +111,25 @@ public final class FoundTest {
         due.is("more than THE MISS", x.beside(0, 2, 4, 0, 1), 1);
     }
 
+    private static void missInAnyOrder() {
+        SoftBench x = new SoftBench();
+        x.stuff(1, 1, 10, 1, 0);
+        x.line(4, 0, 0, 0, 0);
+        x.line(0, 1, 0, 1, 0);
+        x.line(3, 0, 0, 1, 0);
+        x.line(0, 3, 0, 1, 0);
+        x.line(0, -1, 0, 1, 0);
+        x.line(0, -3, 0, 1, 0);
+        x.run(0);
+        // (1, 11) (0, 0) (3, 13) (-1, -11) (-3, -13)
+        expectMiss("the one between comes first", x, 0, 2, 10, 3);
+        expectMiss("the one between is below", x, 1, 4, 10, 3);
+        // slope 6 holds (1, 11) and (3, 13) 5 off on both sides, and (-1, -11), (-3, -13) so, too
+        expectMiss("all of them", x, 0, 4, 5, 1);
+        due.is("6 x", x.beside(0, 4, 0, 6, 1), 0);
+        due.is("13 x by 2", x.beside(0, 4, 0, 13, 2), 1);
+    }
+
     private static void missPoints() {
         SoftBench x = plain();
         x.line(0, 7, 0, 26, 0);
@@ -195,6 +216,19 @@ public final class FoundTest {
         expectSwing("the other is as it was", x, 4, 1, 800, 0);
     }
 
+    private static void swingAhead() {
+        SoftBench x = new SoftBench();
+        x.stuff(0, 50, 0, 1, 0);
+        x.line(2, 10, 0, 1, 1);
+        x.run(0);
+        expectSwing("LINE 0", x, 0, 1, 2 * 3000, 0);
+        x.line(3, 0, 0, 1, 0);
+        x.run(0);
+        x.drop();
+        due.is("a LINE behind it is gone", x.swing(0, 0), NO);
+        due.is("it is gone itself", x.swing(1, 0), NO);
+    }
+
     private static void swingRefused() {
         SoftBench x = plain();
         x.line(2, 10, 0, 1, 1);
@@ -232,6 +266,8 @@ public final class FoundTest {
         x.run(0);
         // RATES 0 10 0 -10 0, READINGS 0 5 2 -4 -2
         due.is("area(0, 4)", x.area(0, 4), 10 * 5 - 10 * 7 - 10 * -2 + 10 * -6);
+        due.is("area(0, 3)", x.area(0, 3), 10 * 5 - 10 * 7 - 10 * -2);
+        due.is("area(1, 3)", x.area(1, 3), -10 * 7 - 10 * -2);
         due.is("area(0, 1)", x.area(0, 1), 50);
         due.is("area(1, 2)", x.area(1, 2), -70);
         due.is("area(3, 4)", x.area(3, 4), -60);

@@ -86,6 +86,8 @@ public final class StuffTest {
         due.is("BAD comes ahead of FULL", x.stuff(0, 51, 0, 1, 0), SoftBench.BAD);
         due.is("six are there", x.count(0), 6);
         due.is("the last is as it was", x.press(5, 1, 0), 5);
+        due.is("there is no 7th", x.press(6, 1, 0), NO);
+        due.is("nor an 8th", x.press(7, 1, 0), NO);
     }
 
     private static void pressThin() {
