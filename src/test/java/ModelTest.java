@@ -1,10 +1,10 @@
 import java.util.Arrays;
+import java.util.List;
 import java.util.Random;
 
 /** All promises: long runs of calls, each answer held against the slow model's. */
 public final class ModelTest {
-    private static final String[] NAMES = {"stuff", "press", "line", "drop", "turns", "set", "run", "lose", "at",
-        "about", "steady", "miss", "beside", "swing", "area", "keep", "curve", "spread", "shift", "check", "count", "trace"};
+    private static final List<String> NAMES = Calls.NAMES;
     private static final int[] ARITY = {5, 3, 5, 0, 0, 2, 1, 1, 2, 1, 3, 3, 5, 2, 2, 1, 2, 4, 3, 1, 1, 0};
     // how often each is called: lines and runs make what the others look at
     private static final int[] WEIGHT = {6, 6, 16, 5, 3, 4, 14, 5, 6, 3, 8, 8, 8, 10, 6, 8, 4, 8, 3, 8, 4, 1};
@@ -15,7 +15,7 @@ public final class ModelTest {
     private static final int CALLS = 512;
 
     private static final Due due = new Due();
-    private static final int[] answered = new int[NAMES.length];
+    private static final int[] answered = new int[NAMES.size()];
 
     public static void main(String[] args) {
         for (int seed = 0; seed < RUNS; seed++) {
@@ -23,8 +23,8 @@ public final class ModelTest {
                 break;
             }
         }
-        for (int k = 0; k < NAMES.length; k++) {
-            due.holds(NAMES[k] + " was not refused often enough: " + answered[k], answered[k] >= 500);
+        for (int k = 0; k < NAMES.size(); k++) {
+            due.holds(NAMES.get(k) + " was not refused often enough: " + answered[k], answered[k] >= 500);
         }
         due.end();
     }
@@ -38,8 +38,8 @@ public final class ModelTest {
             int method = c < 4 ? 0 : pick(random, model);
             int[] args = arguments(random, method, model);
             long want = model.call(method, args);
-            long got = ask(bench, method, args);
-            String call = NAMES[method] + Arrays.toString(args);
+            long got = Calls.ask(bench, method, args);
+            String call = Calls.told(NAMES.get(method), args);
             told.append(call).append(" = ").append(got).append('\n');
             due.is("seed " + seed + " call " + c + ": " + call, got, want);
             if (got != want) {
@@ -174,32 +174,5 @@ public final class ModelTest {
             }
         }
         return null;
-    }
-
-    private static long ask(SoftBench x, int method, int[] a) {
-        switch (method) {
-            case 0: return x.stuff(a[0], a[1], a[2], a[3], a[4]);
-            case 1: return x.press(a[0], a[1], a[2]);
-            case 2: return x.line(a[0], a[1], a[2], a[3], a[4]);
-            case 3: return x.drop();
-            case 4: return x.turns();
-            case 5: return x.set(a[0], a[1]);
-            case 6: return x.run(a[0]);
-            case 7: return x.lose(a[0]);
-            case 8: return x.at(a[0], a[1]);
-            case 9: return x.about(a[0]);
-            case 10: return x.steady(a[0], a[1], a[2]);
-            case 11: return x.miss(a[0], a[1], a[2]);
-            case 12: return x.beside(a[0], a[1], a[2], a[3], a[4]);
-            case 13: return x.swing(a[0], a[1]);
-            case 14: return x.area(a[0], a[1]);
-            case 15: return x.keep(a[0]);
-            case 16: return x.curve(a[0], a[1]);
-            case 17: return x.spread(a[0], a[1], a[2], a[3]);
-            case 18: return x.shift(a[0], a[1], a[2]);
-            case 19: return x.check(a[0]);
-            case 20: return x.count(a[0]);
-            default: return x.trace();
-        }
     }
 }

@@ -35,35 +35,8 @@ public final class WildTest {
     }
 
     private static void wildCall(SoftBench x, Random random) {
-        int a = v(random);
-        int b = v(random);
-        int c = v(random);
-        int d = v(random);
-        int e = v(random);
-        switch (random.nextInt(22)) {
-            case 0: x.stuff(a, b, c, d, e); break;
-            case 1: x.press(a, b, c); break;
-            case 2: x.line(a, b, c, d, e); break;
-            case 3: x.drop(); break;
-            case 4: x.turns(); break;
-            case 5: x.set(a, b); break;
-            case 6: x.run(a); break;
-            case 7: x.lose(a); break;
-            case 8: x.at(a, b); break;
-            case 9: x.about(a); break;
-            case 10: x.steady(a, b, c); break;
-            case 11: x.miss(a, b, c); break;
-            case 12: x.beside(a, b, c, d, e); break;
-            case 13: x.swing(a, b); break;
-            case 14: x.area(a, b); break;
-            case 15: x.keep(a); break;
-            case 16: x.curve(a, b); break;
-            case 17: x.spread(a, b, c, d); break;
-            case 18: x.shift(a, b, c); break;
-            case 19: x.check(a); break;
-            case 20: x.count(a); break;
-            default: x.trace(); break;
-        }
+        int[] a = {v(random), v(random), v(random), v(random), v(random)};
+        Calls.ask(x, random.nextInt(Calls.NAMES.size()), a);
     }
 
     /** The greatest numbers that can come: sums must not wrap round. */
