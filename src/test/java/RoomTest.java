@@ -16,7 +16,7 @@ public final class RoomTest {
         SoftBench x = filled();
         everyCall(x, 512);
         sizeOf(x);
-        dearestCalls();
+        callsMakeNothing();
         due.end();
     }
 
@@ -75,36 +75,42 @@ public final class RoomTest {
         }
     }
 
-    /** The calls that do most leave nothing behind; the bound leaves room for what the machine makes by itself. */
-    private static void dearestCalls() {
+    /** One object of 16 bytes a call would be 8192 bytes; below that is left to what the machine makes by itself. */
+    private static void callsMakeNothing() {
         if (!(ManagementFactory.getThreadMXBean() instanceof com.sun.management.ThreadMXBean threads)) {
             return;
         }
         SoftBench x = filled();
-        dear(x, 100);
+        allButStuff(x, 100);
         long before = threads.getCurrentThreadAllocatedBytes();
-        dear(x, 512);
+        allButStuff(x, 512);
         long made = threads.getCurrentThreadAllocatedBytes() - before;
-        due.holds("512 of each of the dearest calls make no objects: " + made + " bytes", made < 100_000);
+        due.holds("512 of each call but stuff() make no objects: " + made + " bytes", made < 8192);
     }
 
-    private static void dear(SoftBench x, int times) {
+    private static void allButStuff(SoftBench x, int times) {
         for (int k = 0; k < times; k++) {
             x.press(5, 200, 0);
             x.line(0, 1, 0, 1, 0);
+            x.turns();
             x.drop();
             x.set(0, k % 10);
             x.run(k % 6);
             x.lose(395);
+            x.at(k % 400, k % 4);
+            x.about(k % 4);
             x.steady(0, 40, 5);
             x.miss(0, 23, 0);
             x.beside(0, 23, 1, 1, 7);
             x.swing(0, 2);
             x.area(0, 390);
             x.keep(k % 4);
+            x.curve(k % 4, k % 3);
             x.spread(0, 1, 3, 0);
             x.shift(2, 3, 20);
             x.check(k);
+            x.count(k % 6);
+            x.trace();
         }
     }
 }
